@@ -5,7 +5,7 @@ import java.util.Random;
 
 /** All promises: long runs of calls, drawn from fixed seeds, beside the Model. */
 public final class ModelTest {
-    private static final int RUNS = 1500;
+    private static final int RUNS = 1600;
     private static final int CALLS = 512;
 
     private final Random random;
@@ -43,6 +43,9 @@ public final class ModelTest {
     }
 
     private void go() {
+        if (skew == 3 && random.nextInt(3) == 0) {
+            fillText();
+        }
         while (calls < CALLS - 120 && !Due.anyWrong()) {
             switch (random.nextInt(16)) {
                 case 0, 1 -> feedSome();
@@ -94,6 +97,27 @@ public final class ModelTest {
         int symbol = someSymbol();
         due("feed(" + symbol + ")", smith.feed(symbol), model.feed(symbol));
         due("count(" + symbol + ")", smith.count(symbol), model.count(symbol));
+    }
+
+    /** A text near its greatest size, by few calls, so that texts and bits come to their limits. */
+    private void fillText() {
+        for (int k = 0; k < 60; k++) {
+            long v = 0;
+            for (int i = 0; i < 10; i++) {
+                v = v << 6 | Math.min(someSymbol(), 63);
+            }
+            int n = k == 59 ? 1 + random.nextInt(10) : 10;
+            due("feedAll(" + v + ", " + n + ")", smith.feedAll(v, n), model.feedAll(v, n));
+        }
+        for (int symbol = 0; symbol < model.symbols && symbol < 64; symbol++) {
+            poke(symbol, Math.min(model.most, 9 + random.nextInt(3)));
+        }
+        due("load()", smith.load(), model.load());
+        due("encode()", smith.encode(), model.encode());
+        due("decode()", smith.decode(), model.decode());
+        due("pack()", smith.pack(), model.pack());
+        due("unpack()", smith.unpack(), model.unpack());
+        pushSome();
     }
 
     private void rareCalls() {
