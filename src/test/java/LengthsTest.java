@@ -1,4 +1,5 @@
 import java.util.ArrayList;
+import java.util.Collections;
 import java.util.List;
 import java.util.Map;
 import java.util.Random;
@@ -138,15 +139,13 @@ public final class LengthsTest {
         for (int k = 0; k < 1200 && !Due.anyWrong(); k++) {
             int[] counts = someCounts(random, k);
             int most = k % 3 == 0 ? 24 : 1 + random.nextInt(12);
-            PrefixSmith smith = new PrefixSmith(counts.length, most);
-            Model model = new Model(counts.length, most);
-            Runs.feedCounts(smith, counts);
-            for (int symbol = 0; symbol < counts.length; symbol++) {
-                for (int i = 0; i < counts[symbol]; i++) {
-                    model.feed(symbol);
-                }
-            }
             for (int how = 0; how <= 4; how++) {
+                Model model = new Model(counts.length, most);
+                for (int symbol = 0; symbol < counts.length; symbol++) {
+                    model.text.addAll(Collections.nCopies(counts[symbol], symbol));
+                }
+                PrefixSmith smith = new PrefixSmith(counts.length, most);
+                Runs.feedCounts(smith, counts);
                 String what = "case " + k + ": build(" + how + ")";
                 Due.due(what, smith.build(how), model.build(how));
                 Runs.lengthsDue(what, smith, model.lengths);

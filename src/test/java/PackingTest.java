@@ -249,27 +249,25 @@ public final class PackingTest {
 
     private static void thereAndBack() {
         for (int how = 0; how <= 4; how++) {
-            PrefixSmith smith = new PrefixSmith(64, 24);
-            for (int k = 0; k < 60; k++) {
-                smith.feedAll(0x123456789abcdefL * (k * k + how), 10);
+            PrefixSmith smith = new PrefixSmith(20, 24);
+            int[] text = new int[60];
+            for (int i = 0; i < text.length; i++) {
+                text[i] = i * i * i % 97 * (i + how) % 20;
+                smith.feed(text[i]);
             }
             smith.build(how);
             int size = smith.pack();
-            PrefixSmith other = new PrefixSmith(64, 24);
-            for (int i = 0; i < Math.min(size, 6000); i += 32) {
+            PrefixSmith other = new PrefixSmith(20, 24);
+            for (int i = 0; i < size; i += 32) {
                 int n = Math.min(32, size - i);
                 int v = 0;
                 for (int k = 0; k < n; k++) {
-                    v = 2 * v + (smith.bit(i + k) == 1 ? 1 : 0);
+                    v = 2 * v + smith.bit(i + k);
                 }
                 other.push(v, n);
             }
-            Due.due("unpack() by another", other.unpack(), 600);
-            smith.unpack();
-            for (int i = 0; i < 600; i++) {
-                long v = 0x123456789abcdefL * ((i / 10) * (i / 10) + how);
-                Due.due("out(" + i + ")", other.out(i), v >>> (6 * (i % 10)) & 63);
-            }
+            Due.due("unpack() by another", other.unpack(), text.length);
+            Runs.outDue("unpack() by another", other, text);
             Due.due("IN ORDER", other.told(9), how == 3 ? 1 : 0);
         }
     }
