@@ -52,8 +52,8 @@ public final class PrefixSmith {
     private Table spareTable;
     private BitRow bits;
     private BitRow spareBits;
-    private Row read;
-    private Row spareRead;
+    private Row outRow;
+    private Row spareOutRow;
 
     public PrefixSmith(int symbols, int most) {
         this.symbols = symbols >= 2 && symbols <= 96 ? symbols : 16;
@@ -71,8 +71,8 @@ public final class PrefixSmith {
         spareTable = new Table(this.symbols, this.most);
         bits = new BitRow(BIT_ROOM);
         spareBits = new BitRow(BIT_ROOM);
-        read = new Row();
-        spareRead = new Row();
+        outRow = new Row();
+        spareOutRow = new Row();
     }
 
     // ---- the text
@@ -224,7 +224,7 @@ public final class PrefixSmith {
     }
 
     public int decode() {
-        return table.loaded ? reader.readAll(bits, table, read) : NONE;
+        return table.loaded ? reader.readAll(bits, table, outRow) : NONE;
     }
 
     public int pack() {
@@ -242,16 +242,16 @@ public final class PrefixSmith {
     }
 
     public int unpack() {
-        int answer = reader.readPacked(bits, spareTable, spareRead);
+        int answer = reader.readPacked(bits, spareTable, spareOutRow);
         if (answer < 0) {
             return answer;
         }
         Table oldTable = table;
         table = spareTable;
         spareTable = oldTable;
-        Row oldRead = read;
-        read = spareRead;
-        spareRead = oldRead;
+        Row oldOutRow = outRow;
+        outRow = spareOutRow;
+        spareOutRow = oldOutRow;
         return answer;
     }
 
@@ -333,7 +333,7 @@ public final class PrefixSmith {
     }
 
     public int out(int i) {
-        return read.get(i);
+        return outRow.get(i);
     }
 
     public int place() {
@@ -371,7 +371,7 @@ public final class PrefixSmith {
             case 4:
                 return bits.size;
             case 5:
-                return read.size;
+                return outRow.size;
             case 6:
                 return table.codeNumber();
             case 7:

@@ -21,6 +21,7 @@ public final class PackingTest {
         beyondTheSymbols();
         notRight();
         notRightInOrder();
+        longestInOrder();
         tooManySymbols();
         bitsBehind();
         thereAndBack();
@@ -228,6 +229,24 @@ public final class PackingTest {
         PrefixSmith smith = withBits("0000011 1 00010 00010 00001 00000 0000000000");
         Due.due("a 0 may be left out", smith.unpack(), 0);
         Runs.codesDue("a 0 may be left out", smith, 0, 1, 1, -1);
+    }
+
+    private static void longestInOrder() {
+        PrefixSmith smith = new PrefixSmith(3, 24);
+        Runs.pushRow(smith, "0000010 1 11000 11000 10111 0000000010" + "0".repeat(23) + "1"
+                + "0".repeat(22) + "1");
+        Due.due("24, 24 and 23 bits", smith.unpack(), 2);
+        Runs.outDue("24, 24 and 23 bits", smith, 1, 2);
+        Runs.codesDue("24, 24 and 23 bits", smith, 0, 1, 1);
+        smith.cut(0);
+        Runs.pushRow(smith, "0000010 1 11000 10111 00000 0000000000");
+        Due.due("the 24th bit is 1", smith.unpack(), -8);
+        Due.due("PLACE", smith.place(), 23);
+        smith.cut(0);
+        Runs.pushRow(smith, "0000010 1 00001 00010 11000 0000000001" + "11" + "0".repeat(22));
+        Due.due("1, 2 and 24 bits", smith.unpack(), 1);
+        Runs.codesDue("1, 2 and 24 bits", smith, 0, 2, 3 << 22);
+        Due.due("not FULL by little", smith.told(8), 0);
     }
 
     private static void tooManySymbols() {
