@@ -2,6 +2,7 @@ import java.lang.reflect.Constructor;
 import java.lang.reflect.Field;
 import java.lang.reflect.Method;
 import java.lang.reflect.Modifier;
+import java.util.Arrays;
 import java.util.Set;
 import java.util.TreeSet;
 
@@ -50,7 +51,7 @@ public final class FaceTest {
             if (Modifier.isPrivate(method.getModifiers())) {
                 isTrue(method + " has a name of its own", !names.contains(method.getName()));
             } else {
-                String types = java.util.Arrays.toString(method.getParameterTypes());
+                String types = Arrays.toString(method.getParameterTypes());
                 found.add(method.getReturnType() + " " + method.getName()
                         + types.replace('[', '(').replace(']', ')'));
                 isTrue(method + " is public, of the object", Modifier.isPublic(method.getModifiers())
@@ -74,7 +75,7 @@ public final class FaceTest {
         Due.due("constructors", smith.getDeclaredConstructors().length, 1);
         for (Constructor<?> constructor : smith.getDeclaredConstructors()) {
             isTrue("PrefixSmith(int, int)", Modifier.isPublic(constructor.getModifiers())
-                    && java.util.Arrays.equals(constructor.getParameterTypes(),
+                    && Arrays.equals(constructor.getParameterTypes(),
                             new Class<?>[] {int.class, int.class}));
         }
     }

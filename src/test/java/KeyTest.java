@@ -1,4 +1,6 @@
 import java.util.ArrayList;
+import java.util.Arrays;
+import java.util.Comparator;
 import java.util.List;
 
 /** Promises 21 and 22: key, keyBit. */
@@ -13,6 +15,7 @@ public final class KeyTest {
         latestKey();
         allCanonicalTables();
         allTablesInOrder();
+        oneBehindAnother();
         Due.finish();
     }
 
@@ -122,13 +125,39 @@ public final class KeyTest {
         rising(new ArrayList<>(), 1 << 10, 11, all);
         Due.due("tables with 2 to 11 codes", all.size(), 1 + 1 + 2 + 3 + 5 + 9 + 16 + 28 + 50 + 89);
         for (int[] lengths : all) {
-            Model model = new Model(lengths.length, 24);
-            for (int symbol = 0; symbol < lengths.length; symbol++) {
-                model.poke(symbol, lengths[symbol]);
+            keyDue(Arrays.toString(lengths), withTable(lengths), keyByModel(lengths));
+        }
+    }
+
+    private static String keyByModel(int... lengths) {
+        Model model = new Model(Math.max(2, lengths.length), 24);
+        for (int symbol = 0; symbol < lengths.length; symbol++) {
+            model.poke(symbol, lengths[symbol]);
+        }
+        model.load();
+        model.key();
+        return model.key;
+    }
+
+    /** What a long search leaves behind must not help a later one of the same object. */
+    private static void oneBehindAnother() {
+        List<int[]> all = new ArrayList<>();
+        rising(new ArrayList<>(), 1 << 10, 11, all);
+        all.sort(Comparator.comparingInt(lengths -> -keyByModel(lengths).length()));
+        int[][] without = {{2, 2, 2, 2}, {3, 3, 3, 3, 3, 3, 3, 3}, {1, 1}};
+        for (int[] next : without) {
+            for (int k = 0; k < 12; k++) {
+                PrefixSmith smith = new PrefixSmith(11, 24);
+                Runs.pokeAll(smith, all.get(k));
+                smith.load();
+                keyDue("the first", smith, keyByModel(all.get(k)));
+                Runs.pokeAll(smith, Arrays.copyOf(next, 11));
+                smith.load();
+                keyDue("behind it", smith, keyByModel(next));
+                Runs.pokeAll(smith, Arrays.copyOf(all.get(11 - k), 11));
+                smith.load();
+                keyDue("the third", smith, keyByModel(all.get(11 - k)));
             }
-            model.load();
-            model.key();
-            keyDue(java.util.Arrays.toString(lengths), withTable(lengths), model.key);
         }
     }
 

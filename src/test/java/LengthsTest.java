@@ -1,4 +1,5 @@
 import java.util.ArrayList;
+import java.util.Arrays;
 import java.util.Collections;
 import java.util.List;
 import java.util.Map;
@@ -25,7 +26,7 @@ public final class LengthsTest {
     private static void dueLengths(int how, int most, int[] counts, long cost, int... want) {
         PrefixSmith smith = new PrefixSmith(counts.length < 2 ? 2 : counts.length, most);
         Runs.feedCounts(smith, counts);
-        String what = "build(" + how + ") of " + java.util.Arrays.toString(counts);
+        String what = "build(" + how + ") of " + Arrays.toString(counts);
         Due.due(what, smith.build(how), cost);
         Runs.lengthsDue(what, smith, want);
     }
