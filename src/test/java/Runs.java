@@ -64,6 +64,14 @@ final class Runs {
         Due.due(what + ": out behind the last", smith.out(want.length), -1);
     }
 
+    /** A text can be seen in bits alone, so this builds a table for it, and takes the bits' place. */
+    static void textDue(String what, PrefixSmith smith, int... want) {
+        smith.build(0);
+        smith.encode();
+        smith.decode();
+        outDue(what + ", the text", smith, want);
+    }
+
     /** Of a long row only both ends are looked at, for an object has 512 calls. */
     static void bitsDue(String what, PrefixSmith smith, String spaced) {
         String row = spaced.replace(" ", "");
@@ -74,6 +82,16 @@ final class Runs {
             }
         }
         Due.due(what + ": bit behind the last", smith.bit(row.length()), -1);
+    }
+
+    /** The PACKED bits of lengths, each in five bits, up to the number of symbols. */
+    static String packedHead(boolean inOrder, int... lengths) {
+        StringBuilder row = new StringBuilder(number(lengths.length - 1, 7));
+        row.append(inOrder ? '1' : '0');
+        for (int length : lengths) {
+            row.append(number(length, 5));
+        }
+        return row.toString();
     }
 
     /** v in so many bits, the highest first. */
