@@ -119,6 +119,8 @@ public final class CodingEdgesTest {
         PrefixSmith deep = withTable(24, 1);
         Runs.feedMany(deep, 0, 250);
         Due.due("250 times 24", deep.encode(), 6000);
+        deep.turn(0);
+        deep.turn(5999);
         deep.feed(1);
         before = State.of(deep);
         Due.due("250 times 24 and one", deep.encode(), -3);

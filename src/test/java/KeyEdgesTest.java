@@ -55,7 +55,7 @@ public final class KeyEdgesTest {
         Due.says("Terms", "if it brings a reader to a beginning, wherever it was");
         // 00, 01 and 1: behind 0 a reader that was at a beginning is within a code.
         keyDue("00 01 1", inOrder(2, 2, 1), "1");
-        // The longest way of eleven codes: ten places where the reader may be become one.
+        // The longest of CANONICAL tables: ten places where a reader may be become one.
         keyDue("seven of three bits, four of five",
                 withTable(3, 3, 3, 3, 3, 3, 3, 5, 5, 5, 5), "01110011100");
     }
@@ -103,6 +103,11 @@ public final class KeyEdgesTest {
         keyDue("all of three bits", withTable(3, 3, 3, 3, 3, 3, 3, 3), "");
         keyDue("of two and of four bits", withTable(2, 2, 4, 4, 4, 4, 4, 4, 4, 4), "");
         keyDue("all of one bit have one", withTable(1, 1), "0");
+        PrefixSmith smith = withTable(1, 4, 4, 4, 4, 4, 4, 4, 4);
+        keyDue("another table before", smith, "000");
+        Runs.pokeAll(smith, 2, 2, 2, 2, 0, 0, 0, 0, 0);
+        smith.load();
+        keyDue("what it left is no key", smith, "");
     }
 
     private static void keyNotLoaded() {

@@ -37,11 +37,27 @@ public final class LengthsEdgesTest {
         Due.finish();
     }
 
-    /** The answer that is due is the sum of counts times the lengths that are due. */
+    /** Both by a new object and by one that has built before, by all ways. */
     private static void lengthsDue(int how, int most, int[] counts, int... want) {
-        PrefixSmith smith = new PrefixSmith(counts.length, most);
-        Runs.feedCounts(smith, counts);
         String what = "build(" + how + ") of " + Arrays.toString(counts) + ", MOST " + most;
+        PrefixSmith fresh = new PrefixSmith(counts.length, most);
+        lengthsDue(what, fresh, how, counts, want);
+        PrefixSmith used = new PrefixSmith(counts.length, most);
+        int codes = Math.min(counts.length, 1 << Math.min(most, 3));
+        for (int symbol = 0; symbol < codes; symbol++) {
+            Runs.feedMany(used, symbol, symbol + 1);
+        }
+        for (int before = HEAP; before <= HALVES; before++) {
+            used.build(before);
+        }
+        used.clear();
+        lengthsDue(what + ", not the first", used, how, counts, want);
+    }
+
+    /** The answer that is due is the sum of counts times the lengths that are due. */
+    private static void lengthsDue(String what, PrefixSmith smith, int how, int[] counts,
+            int... want) {
+        Runs.feedCounts(smith, counts);
         long cost = 0;
         for (int symbol = 0; symbol < counts.length; symbol++) {
             cost += (long) counts[symbol] * want[symbol];

@@ -5,6 +5,20 @@ public final class PackingEdgesTest {
     private static final String HEAD = "0000011 0 00010 00001 00011 00011";
     private static final String GOOD = HEAD + "0000000010 0 111";
 
+    /** Bits of four symbols, MOST 3, what unpack() answers, and the place. */
+    private record Fault(String row, int answer, int place) {
+    }
+
+    private static final Fault[] FAULTS = {
+        new Fault(GOOD.substring(0, GOOD.length() - 1), -2, 41),
+        new Fault("0000011 0 00001 00000 00000 00000 0000000010 0 1", -3, 39),
+        new Fault("0000010 0 00001 00001 00000" + NO_SYMBOLS, -5, 0),
+        new Fault("0000011 0 00001 00001 00100 00000" + NO_SYMBOLS, -6, 18),
+        new Fault("0000011 0 00001 00001 11111 000000" + NO_SYMBOLS, -7, 18),
+        new Fault("0000011 0 00001 00001 00001 00000" + NO_SYMBOLS, -8, 28),
+        new Fault(HEAD + "1001011001 0", -9, 28),
+        new Fault(GOOD + "0", -10, 42)};
+
     private PackingEdgesTest() {
     }
 
@@ -31,6 +45,8 @@ public final class PackingEdgesTest {
         tooManySymbols();
         bitsBehind();
         firstPlaceTells();
+        tableAndOutStay();
+        placesOfFaults();
         Due.finish();
     }
 
@@ -44,7 +60,9 @@ public final class PackingEdgesTest {
     }
 
     private static void packDue(String what, PrefixSmith smith, String row) {
-        Due.due(what + ": pack()", smith.pack(), row.replace(" ", "").length());
+        int size = row.replace(" ", "").length();
+        Due.due(what + ": pack()", smith.pack(), size);
+        Due.due(what + ": pack() again", smith.pack(), size);
         Runs.bitsDue(what, smith, row);
     }
 
@@ -204,14 +222,18 @@ public final class PackingEdgesTest {
 
     // ---- unpack
 
-    /** S = 4, MOST = 3, a table that is not FULL, a text, THE OUT 0 1 0, and these bits. */
+    /**
+     * S = 4, MOST = 3, a text, these bits, and, by the second of two calls of unpack() so that there
+     * is an old table and an old OUT, too, lengths 1 2 0 0 and THE OUT 0 1 0.
+     */
     private static PrefixSmith withBits(String row) {
         PrefixSmith smith = new PrefixSmith(4, 3);
-        Runs.pokeAll(smith, 1, 2, 0, 0);
-        smith.load();
         smith.feed(1);
-        Runs.pushRow(smith, "0 10 0");
-        smith.decode();
+        Runs.pushRow(smith, "0000011 1 00011 00011 00010 00001 0000000010 1 001");
+        Due.due("unpack() before", smith.unpack(), 2);
+        smith.cut(0);
+        Runs.pushRow(smith, "0000011 0 00001 00010 00000 00000 0000000011 0 10 0");
+        Due.due("unpack() before", smith.unpack(), 3);
         smith.cut(0);
         Runs.pushRow(smith, row);
         return smith;
@@ -273,6 +295,9 @@ public final class PackingEdgesTest {
         goodDue("three zeros one by one", "0000011 0 00000 00000 00000 00001 0000000001 0", 3);
         goodDue("three zeros as a row", "0000011 0 11111 000000 00001 0000000001 0", 3);
         goodDue("three zeros behind as a row", "0000011 0 00001 11111 000000 0000000001 0", 0);
+        PrefixSmith few = withBits("0000011 0 00001 11111 000000" + NO_SYMBOLS);
+        few.unpack();
+        Runs.lengthsDue("three zeros behind as a row", few, 1, 0, 0, 0);
         PrefixSmith smith = new PrefixSmith(96, 24);
         Runs.pushRow(smith, "1011111 0 11111 000000 11111 000000 11111 111111 11111 010100 11000"
                 + "0000000001" + "0".repeat(24));
@@ -298,8 +323,11 @@ public final class PackingEdgesTest {
             faultDue(n + " bits", row.substring(0, n), -2, n);
         }
         // Less than three symbols are left, but how long the row would be is not told.
-        faultDue("no n", "0000011 0 00001 00000 11111 00000", -2, 28);
-        faultDue("n", "0000011 0 00001 00000 11111 000000", -7, 18);
+        faultDue("no n of two", "0000011 0 00001 00000 11111 00000", -2, 28);
+        faultDue("n of two", "0000011 0 00001 00000 11111 000000", -7, 18);
+        faultDue("no n of one", "0000011 0 00001 00000 00000 11111 00000", -2, 33);
+        faultDue("n of one", "0000011 0 00001 00000 00000 11111 000000", -7, 23);
+        faultDue("no n, no length", "0000011 0 00000 00000 00000 11111 00000", -2, 33);
     }
 
     private static void noCode() {
@@ -419,6 +447,41 @@ public final class PackingEdgesTest {
         PrefixSmith all = withBits(GOOD + "0".repeat(6000 - 42));
         Due.due("6000 bits", all.unpack(), -10);
         Due.due("place()", all.place(), 42);
+    }
+
+    private static void tableAndOutStay() {
+        Due.says("Promise 14", "Table, OUT stay then");
+        for (Fault fault : FAULTS) {
+            PrefixSmith fresh = new PrefixSmith(4, 3);
+            PrefixSmith poked = withBits("");
+            poked.poke(3, 3);
+            PrefixSmith inOrder = withBits("");
+            inOrder.build(3);
+            for (PrefixSmith smith : new PrefixSmith[] {fresh, poked, inOrder}) {
+                Runs.pushRow(smith, fault.row());
+                String before = State.of(smith);
+                Due.due("unpack()", smith.unpack(), fault.answer());
+                State.due("behind " + fault.answer(), smith,
+                        before.replace(" place -1 ", " place " + fault.place() + " "));
+            }
+        }
+    }
+
+    private static void placesOfFaults() {
+        Due.says("Promise 14", "PLACE is that of the field's first bit (of -7 that of the 31; of -2 how"
+                + " many bits there are, of -3 as told, of -8 that of the number of symbols, of -10 the"
+                + " first one behind)");
+        PrefixSmith smith = new PrefixSmith(4, 3);
+        for (Fault fault : FAULTS) {
+            smith.cut(0);
+            Runs.pushRow(smith, fault.row());
+            Due.due("unpack()", smith.unpack(), fault.answer());
+            Due.due("place() of " + fault.answer(), smith.place(), fault.place());
+        }
+        smith.cut(0);
+        Runs.pushRow(smith, GOOD);
+        Due.due("unpack() without a fault", smith.unpack(), 2);
+        Due.due("place() stays", smith.place(), 42);
     }
 
     private static void firstPlaceTells() {

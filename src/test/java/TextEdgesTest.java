@@ -13,6 +13,7 @@ public final class TextEdgesTest {
         symbols();
         feedNone();
         feedTheLast();
+        textOf600();
         feedAllNumber();
         feedAllSixBits();
         feedAllNone();
@@ -149,6 +150,30 @@ public final class TextEdgesTest {
         Due.due("feed(0) behind clear()", smith.feed(0), 1);
     }
 
+    private static void textOf600() {
+        Due.says("Terms", "THE TEXT is a row of at most 600 symbols");
+        PrefixSmith smith = new PrefixSmith(3, 3);
+        for (int k = 1; k <= 59; k++) {
+            Due.due("ten more", smith.feedAll(0x1041041041041L, 10), 10 * k);
+        }
+        for (int k = 591; k <= 600; k++) {
+            Due.due("one more", smith.feed(2), k);
+        }
+        Due.due("one beyond", smith.feed(2), -2);
+        Due.due("ten beyond", smith.feedAll(0, 10), -2);
+        Due.due("told(2)", smith.told(2), 600);
+        smith.build(1);
+        smith.encode();
+        Due.due("decode()", smith.decode(), 600);
+        for (int i = 580; i < 590; i++) {
+            Due.due("symbol " + i, smith.out(i), i == 589 ? 0 : 1);
+        }
+        for (int i = 590; i < 600; i++) {
+            Due.due("symbol " + i, smith.out(i), 2);
+        }
+        Due.due("clear()", smith.clear(), 600);
+    }
+
     private static void feedAllNumber() {
         Due.says("Promise 3", "Up to ten symbols come behind the text: n (1 .. 10) of them");
         PrefixSmith smith = new PrefixSmith(4, 3);
@@ -223,7 +248,17 @@ public final class TextEdgesTest {
     private static void clearFullAndEmpty() {
         Due.says("Promise 4", "The text is empty: how many it had");
         PrefixSmith smith = new PrefixSmith(4, 3);
+        Due.due("clear() of a new object", smith.clear(), 0);
+        Due.due("feedAll()", smith.feedAll(0x2081, 3), 3);
+        smith.build(3);
+        smith.encode();
+        smith.decode();
+        smith.key();
+        Due.due("clear() of three", smith.clear(), 3);
         String before = State.of(smith);
+        Due.due("only the text is empty", before, " told 4 3 0 0 3 3 2 1 1 1 count 0 0 0 0"
+                + " length 0 1 1 0 code -1 0 1 -1 bit 0 1 1 out 1 2 2 place -1"
+                + " keyBit 0 -1 -1 -1 -1 -1");
         Due.due("clear() of nothing", smith.clear(), 0);
         State.due("clear() of nothing", smith, before);
         Due.due("feed(2)", smith.feed(2), 1);
